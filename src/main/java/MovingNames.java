@@ -444,7 +444,9 @@ public final class MovingNames {
 
     public int rightDays(int k, int n) throws IllegalArgumentException {
         needWithin(n, 0, MOST_AHEAD);
-        needWithin(k, 0, Integer.MAX_VALUE);
+        if (k < 0) {
+            throw new IllegalArgumentException("no map is right for so few streets");
+        }
         outlook.look(town);
         int many = 0;
         for (int i = 0; i < n; i++) {
@@ -466,10 +468,11 @@ public final class MovingNames {
     public int leastHarm(int n) throws IllegalArgumentException {
         needWithin(n, 1, MOST_AHEAD);
         outlook.look(town);
+        outlook.step();
         int best = 1;
-        int least = Integer.MAX_VALUE;
+        int least = outlook.harmThen();
         // No HARM can be less than 0, which comes with the PERIOD's end at the latest.
-        for (int i = 1; i <= n && least > 0; i++) {
+        for (int i = 2; i <= n && least > 0; i++) {
             outlook.step();
             int harm = outlook.harmThen();
             if (harm < least) {
