@@ -234,7 +234,6 @@ public final class MovingNames {
     }
 
     public int undo(int n) throws IllegalArgumentException {
-        needWithin(n, 1, MOST_DEEDS);
         needWithin(n, 1, town.deeds.many);
         for (int i = 0; i < n; i++) {
             town.undoLatest(outlook);

@@ -82,6 +82,8 @@ public final class DeedTest {
         Check.due("nightsFor(858)", x.nightsFor(858), -1);
         x.nights(6);
         Check.due("nightsFor: from now on", x.nightsFor(1), 2);
+        MovingNames w = Check.town("streets 2;rest moved=4 and day<9;");
+        Check.due("nightsFor: by moved", w.nightsFor(5), 10);
         Check.dueThrow("nightsFor(-1)", Check.ARGUMENT, () -> x.nightsFor(-1));
         Check.dueThrow("nightsFor(1000)", Check.ARGUMENT, () -> x.nightsFor(1000));
         MovingNames y = Check.town("streets 2;");

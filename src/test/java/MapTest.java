@@ -74,6 +74,10 @@ public final class MapTest {
         // by 1: 9, 8, 7, 8 and 1, 1; by 2: 1, 1, 1, 1
         Check.due("leastHarm: a later one", y.leastHarm(3), 2);
         Check.due("leastHarm: the period", y.leastHarm(4), 4);
+        MovingNames z = Check.town("streets 3;round: 0 1 2;sign 1 0;");
+        // 2 alone counts: it comes to 0, to 1 and back
+        Check.due("leastHarm: one is some", z.leastHarm(2), 2);
+        Check.due("leastHarm: none is less", z.leastHarm(3), 3);
         Check.dueThrow("leastHarm(0)", Check.ARGUMENT, () -> y.leastHarm(0));
         Check.dueThrow("leastHarm(1000)", Check.ARGUMENT, () -> y.leastHarm(1000));
         Check.dueThrow("leastHarm(-1)", Check.ARGUMENT, () -> y.leastHarm(-1));
@@ -185,6 +189,8 @@ public final class MapTest {
         MovingNames x = Check.town("streets 20;sign 0 19;sign 3 19;sign 4 5;");
         Check.due("twice", x.twice(), 1 << 19 | 1 << 5);
         Check.due("twice: streets", x.count(8), 5);
+        Check.due("twice: of name 0", Check.town("streets 3;sign 1 0;").twice(), 1);
+        Check.due("twice: streets of name 0", Check.town("streets 3;sign 1 0;").count(8), 2);
         Check.due("twice: none", Check.town("streets 3;").twice(), 0);
         Check.due("twice: no streets", new MovingNames().twice(), 0);
     }

@@ -116,6 +116,7 @@ public final class TownTest {
         Check.due("lines: the later houses", x.count(4), 3);
         Check.due("lines: the later law", x.rests(), false);
         Check.due("lines: blind once and again", x.street(1, 1), 1);
+        Check.due("lines: one house", Check.tell(x, "streets 2;houses 1;round by 1: 0 1;"), 3);
         Check.due("lines: houses bound people", Check.tell(x, "streets 2;houses 1;person 1 2;"), -13);
         Check.due("lines: houses behind other lines", Check.tell(x, "streets 2;sign 0 1;houses 12;person 1 12;"), 4);
         Check.due("lines: people by number", x.person(0, 1), 12);
@@ -281,6 +282,8 @@ public final class TownTest {
     private static void law() {
         dueLaw("1=1", true);
         dueLaw("1=2", false);
+        dueLaw("not 1=1", false);
+        dueLaw("not 1=2", true);
         dueLaw("1<2", true);
         dueLaw("2<2", false);
         dueLaw("2>2", false);
@@ -397,6 +400,10 @@ public final class TownTest {
         Check.due("finds(0, 2)", x.finds(0, 2), 4);
         Check.due("finds(0, 5)", x.finds(0, 5), 0);
         Check.due("finds(4, 1)", x.finds(4, 1), 0);
+        MovingNames y = Check.town(Check.SIX);
+        Check.tell(y, "streets 6;person 3 1;");
+        Check.due("finds: no people of an older town", y.finds(4, 1), 0);
+        Check.due("finds: people of this one", y.finds(3, 1), 1);
         Check.dueThrow("finds(0, 0)", Check.ARGUMENT, () -> x.finds(0, 0));
         Check.dueThrow("finds(0, 6)", Check.ARGUMENT, () -> x.finds(0, 6));
         Check.dueThrow("finds(6, 6)", Check.NO_SUCH, () -> x.finds(6, 6));

@@ -46,6 +46,7 @@ public final class WhenTest {
         MovingNames y = Check.town("streets 6;round: 0 1 2 3 4 5;sign 2 0;sign 4 0;sign 3 1;sign 5 1;");
         Check.due("asNow: by turns", y.asNow(), 2);
         Check.due("asNow: it is no period", y.period(), 6);
+        Check.due("asNow: two alike", Check.town("streets 2;round: 0 1;sign 0 1;").asNow(), 1);
     }
 
     private static void when() {
@@ -139,6 +140,11 @@ public final class WhenTest {
         Check.due("visits(0, 2)", x.visits(0, 2), 63);
         Check.due("visits(3, 999)", x.visits(3, 999), 0);
         Check.due("visits(1, 1)", x.visits(1, 1), 2 | 4);
+        Check.due("visits(1, 4)", x.visits(1, 4), 7);
+        Check.due("visits(1, 999)", x.visits(1, 999), 7);
+        x.hang(1, 0);
+        Check.due("visits: two signs behind one another", x.visits(0, 1), 7 | 8 | 16);
+        x.undo(1);
         Check.dueThrow("visits(6, -1)", Check.NO_SUCH, () -> x.visits(6, -1));
         Check.dueThrow("visits(-1, 0)", Check.NO_SUCH, () -> x.visits(-1, 0));
         Check.dueThrow("visits(0, -1)", Check.ARGUMENT, () -> x.visits(0, -1));
@@ -212,6 +218,10 @@ public final class WhenTest {
         dueHome("home: so the first waits", x, 1, 1, 0);
         Check.row(x, 0, 20 * 2 + 2, 20 * 0 + 0, 20 * 2 + 3, 20 * 0 + 1);
         dueHome("home: all at once", x, 3, 0, 2, 1, 3);
+        MovingNames z = Check.town("streets 7;round: 0 1 2;round: 3 4 5;sign 2 0;");
+        // 3 comes to street 3 on night 0, 0 to street 0 on nights 0 and 1
+        Check.row(z, 0, 20 * 6 + 6, 20 * 3 + 3, 20 * 0 + 0);
+        dueHome("home: those that have few nights need them", z, 2, 2, 0, 1);
         MovingNames y = Check.town("streets 20;round: 0 1 2 3 4 5 6 7 8;round: 9 10 11 12 13 14 15;");
         Check.row(y, 0, 20 * 0 + 1, 20 * 0 + 1, 20 * 0 + 1, 20 * 0 + 1, 20 * 0 + 1, 20 * 0 + 1, 20 * 0 + 1);
         dueHome("home: in these 60", y, 55, 1, 10, 19, 28, 37, 46, 55);
