@@ -948,20 +948,16 @@ public final class MovingNames {
                     take(Token.CLOSE_TRUTH);
                 }
             } else {
-                readComparison(law, depth);
-            }
-        }
-
-        private void readComparison(Law law, int depth) {
-            readSum(law, depth);
-            int sign = token.law;
-            if (!token.isComparison()) {
-                refuse(FAULT_MISPLACED);
-            }
-            if (fault == 0) {
-                advance();
                 readSum(law, depth);
-                law.add(sign);
+                int sign = token.law;
+                if (!token.isComparison()) {
+                    refuse(FAULT_MISPLACED);
+                }
+                if (fault == 0) {
+                    advance();
+                    readSum(law, depth);
+                    law.add(sign);
+                }
             }
         }
 

@@ -29,7 +29,8 @@ public final class RandomTest {
 
     private void run() throws Exception {
         if (random.nextInt(20) > 0) newTown();
-        while (calls < 500) {
+        // an object is used for 512 calls at most, a town or a tray takes some fifty of them
+        while (calls < 460) {
             int kind = random.nextInt(100);
             if (kind < 2) newTown();
             else if (kind < 12) fillTray();
@@ -43,7 +44,7 @@ public final class RandomTest {
     }
 
     private int upTo(int most) { return random.nextInt(most + 1); }
-    private int streets() { return Math.max(1, real.count(1)); }
+    private int streets() { return Math.max(1, plain.count(1)); }
 
     private Object call(String name, Object... args) throws Exception {
         calls++;
@@ -83,7 +84,7 @@ public final class RandomTest {
             }
             call("feed", five[0], five[1], five[2], five[3], five[4]);
         }
-        int all = real.count(10);
+        int all = plain.count(10);
         call("town", random.nextInt(20) == 0 ? upTo(all + 2) - 1 : Math.min(all, text.length()));
         call("fault", 0);
         call("fault", 1);
@@ -191,7 +192,7 @@ public final class RandomTest {
     private long letter(int n) throws Exception {
         int name = number(n);
         int s = number(n);
-        if (real.count(1) == 0 || random.nextInt(15) == 0) return 20 * name + s;
+        if (plain.count(1) == 0 || random.nextInt(15) == 0) return 20 * name + s;
         int visits = Integer.parseInt((String) call("visits", name, 999));
         for (int i = 0; i < n && (visits >> s & 1) == 0; i++) s = (s + 1) % n;
         return 20 * name + s;
