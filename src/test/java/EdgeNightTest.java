@@ -554,6 +554,30 @@ public final class EdgeNightTest {
         x.hang(0, 0);
         Check.due("signs as now", x.nameIn(1, -1), 0);
         Check.due("signs as now, ahead", x.nameIn(1, 1), 0);
+        MovingNames y = Check.town(Check.ring(3) + "person 2 1;");
+        Check.row(y, 0, 2);
+        dueAsked("the round as told", y, 6, 3, 2, 7, 1, 3);
+        y.takeOut(1, 0);
+        dueAsked("a street taken out", y, 5, 2, 1, 5, -1, 2);
+        y.undo(1);
+        dueAsked("undone", y, 6, 3, 2, 7, 1, 3);
+        y.blind(0);
+        dueAsked("a blind one", y, 6, 1, -1, 1, 1, 2);
+        y.blind(0);
+        y.takeOut(0, 0);
+        y.letIn(0, 0, 1);
+        dueAsked("a street let in", y, 5, 3, 1, 7, 2, 3);
+    }
+
+    /** A town of three streets, asked for what hangs by moves. */
+    private static void dueAsked(String call, MovingNames x, int under, int again, int when, int visits, int served, int period) {
+        Check.due(call + ": under", x.under(0, 1), under);
+        Check.due(call + ": again", x.again(0), again);
+        Check.due(call + ": when 0 hangs on 2", x.when(0), when);
+        Check.due(call + ": home", x.home(0, 0), when);
+        Check.due(call + ": visits", x.visits(0, 2), visits);
+        Check.due(call + ": the first 1 is served", x.served(0, 1, 1), served);
+        Check.due(call + ": period", x.period(), period);
     }
 
     private static void cycleFrom1On() {
